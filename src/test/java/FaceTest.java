@@ -1,0 +1,113 @@
+import java.lang.reflect.Constructor;
+import java.lang.reflect.Field;
+import java.lang.reflect.Method;
+import java.lang.reflect.Modifier;
+import java.nio.file.Files;
+import java.nio.file.Path;
+import java.util.Set;
+import java.util.TreeSet;
+
+/** The public face is the document's and no more; the source keeps to LANGUAGE.md where that is quick to see. */
+public final class FaceTest {
+    private static int wrong = 0;
+
+    private static void check(boolean holds, String text) {
+        if (!holds) {
+            wrong++;
+            System.out.println(text);
+        }
+    }
+
+    public static void main(String[] args) throws Exception {
+        face();
+        names();
+        source();
+        if (wrong != 0) {
+            System.exit(1);
+        }
+    }
+
+    private static String told(Method method) {
+        StringBuilder text = new StringBuilder(method.getReturnType() + " " + method.getName());
+        for (Class<?> type : method.getParameterTypes()) {
+            text.append(' ').append(type);
+        }
+        return text.toString();
+    }
+
+    private static void face() {
+        Set<String> want = new TreeSet<>(Set.of("int part int int int int", "int needs int int", "int say int", "int wipe",
+            "int fault", "int judge int", "int done", "int state int", "int behind int", "int can", "int lacks int int",
+            "int plan int int int", "int orders", "int bar int int", "int falls int int", "int alone int", "int guard int int",
+            "int seen int int boolean", "int forget", "int hidden int", "int tries int", "int send int", "int makes int",
+            "int quarrel int int", "int sent", "int turns int int", "long fever int int int int int", "int year int int int",
+            "int image int", "int restore int", "int told int"));
+        Set<String> got = new TreeSet<>();
+        for (Method method : PortraitRule.class.getDeclaredMethods()) {
+            if (!Modifier.isPrivate(method.getModifiers())) {
+                got.add(told(method));
+                check(Modifier.isPublic(method.getModifiers()), "not private, not public: " + method);
+            }
+        }
+        check(got.equals(want), "the face's methods: " + got);
+        Set<String> constants = new TreeSet<>();
+        for (Field field : PortraitRule.class.getDeclaredFields()) {
+            if (!Modifier.isPrivate(field.getModifiers())) {
+                constants.add(field.getType() + " " + field.getName());
+                check(Modifier.isStatic(field.getModifiers()) && Modifier.isFinal(field.getModifiers()), "no constant: " + field);
+            }
+            if (Modifier.isStatic(field.getModifiers())) {
+                check(Modifier.isFinal(field.getModifiers()), "a static that is not final: " + field);
+            }
+        }
+        check(constants.equals(new TreeSet<>(Set.of("int NONE", "int UNKNOWN", "int OUTSIDE", "int STATE", "int FULL", "int NO",
+            "long LOST"))), "the constants: " + constants);
+        Constructor<?>[] made = PortraitRule.class.getConstructors();
+        check(made.length == 1 && made[0].getParameterCount() == 0, "the constructor");
+        int flags = PortraitRule.class.getModifiers();
+        check(Modifier.isPublic(flags) && Modifier.isFinal(flags), "public and final");
+    }
+
+    private static void names() {
+        Set<String> open = new TreeSet<>();
+        for (Method method : PortraitRule.class.getDeclaredMethods()) {
+            if (Modifier.isPublic(method.getModifiers())) {
+                open.add(method.getName());
+            }
+        }
+        for (Method method : PortraitRule.class.getDeclaredMethods()) {
+            check(Modifier.isPublic(method.getModifiers()) || !open.contains(method.getName()), "a private name of the face: " + method);
+        }
+        Class<?>[] inside = PortraitRule.class.getDeclaredClasses();
+        check(inside.length <= 11, "too many classes");
+        for (Class<?> one : inside) {
+            check(Modifier.isStatic(one.getModifiers()), "not static: " + one);
+            for (Method method : one.getDeclaredMethods()) {
+                check(!open.contains(method.getName()), "a name of the face inside: " + method);
+                check(method.getParameterCount() <= 7, "too many parameters: " + method);
+            }
+        }
+    }
+
+    private static void source() throws Exception {
+        String text = Files.readString(Path.of("src/main/java/PortraitRule.java"));
+        for (String no : new String[] {"import ", "package ", "->", "::", "catch", "finally", "throw", "synchronized", "assert",
+            "System.out", "Thread", "random", "Exact", "volatile", "native"}) {
+            check(!text.contains(no), "the source has: " + no);
+        }
+        for (int i = 0; i < text.length(); i++) {
+            check(text.charAt(i) < 128, "a sign above 127 at " + i);
+        }
+        int from = -1;
+        String[] lines = text.split("\n");
+        for (int i = 0; i < lines.length; i++) {
+            if (lines[i].matches(" {4}( {4})?(public|private) .*\\) \\{")) {
+                from = i;
+            }
+            if (from >= 0 && lines[i].matches(" {4}( {4})?\\}")) {
+                check(i - from < 60, "a long method at line " + (from + 1));
+                from = -1;
+            }
+        }
+    }
+}
