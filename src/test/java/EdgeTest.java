@@ -1215,6 +1215,17 @@ public final class EdgeTest {
         due("orders()", x.orders(), 1);
     }
 
+    public static void promise14_whateverWasAskedAheadOfIt() {
+        PortraitRule x = new PortraitRule();
+        reign(x, "sabcde", 6);
+        // hidden and turns look at the empty picture, too, from which orders does not begin
+        due("hidden(0)", x.hidden(0), 256);
+        due("orders()", x.orders(), 6);
+        turns(x, 7, 0, 7);
+        due("orders()", x.orders(), 6);
+        due("orders() again", x.orders(), 6);
+    }
+
     public static void promise14_oneUnderAll() {
         PortraitRule x = new PortraitRule();
         for (int part = 1; part < 8; part++) {
