@@ -29,7 +29,7 @@ public final class PortraitRule {
     private final int[] bySet = new int[SETS];
     private boolean firstKept;
     private boolean secondKept;
-    /** Of the last REIGN that was tried: why its first STEP that can not be can not (0: all can). */
+    /** Of the last REIGN that was tried: why its first STEP that can not be can not (0: all can; NO: a FAULT). */
     private int reason;
     /** Of the last REIGN that was tried: STEPS that were taken. */
     private int stepsTaken;
@@ -95,10 +95,10 @@ public final class PortraitRule {
         if (!isEitherOne(what)) {
             return OUTSIDE;
         }
-        if (pad.firstFault() != NONE) {
+        tryReign();
+        if (reason == NO) {
             return NO;
         }
-        tryReign();
         if (reason == 0) {
             return NONE;
         }
@@ -106,7 +106,8 @@ public final class PortraitRule {
     }
 
     public int done() {
-        if (!reignCanBe()) {
+        tryReign();
+        if (reason != 0) {
             return NO;
         }
         now.copyFrom(trial);
@@ -125,7 +126,8 @@ public final class PortraitRule {
         if (what < 0 || what > 5) {
             return OUTSIDE;
         }
-        if (!reignCanBe()) {
+        tryReign();
+        if (reason != 0) {
             return NO;
         }
         if (what == 4) {
@@ -431,19 +433,14 @@ public final class PortraitRule {
 
     // ---- reigns
 
-    private boolean reignCanBe() {
-        if (pad.firstFault() != NONE) {
-            return false;
-        }
-        tryReign();
-        return reason == 0;
-    }
-
-    /** Takes the STEPS of a PAD without a FAULT on the trial, up to the first that can not be. */
+    /** Takes the STEPS on the trial, up to the first that can not be; none of a PAD with a FAULT. */
     private void tryReign() {
         trial.copyFrom(now);
-        reason = 0;
         stepsTaken = 0;
+        reason = pad.firstFault() == NONE ? 0 : NO;
+        if (reason != 0) {
+            return;
+        }
         boolean over = false;
         for (int place = 0; place < pad.count; place++) {
             int kind = Pad.kindOf(pad.signAt(place));
@@ -800,14 +797,10 @@ public final class PortraitRule {
 
         // ---- sets of PARTS, POWERS, ACTS
 
-        private boolean isDone(int part) {
-            return painted[part] == hours[part];
-        }
-
         private int doneParts() {
             int set = 0;
             for (int part = 0; part < EIGHT; part++) {
-                if (isDone(part)) {
+                if (painted[part] == hours[part]) {
                     set |= 1 << part;
                 }
             }
@@ -920,10 +913,11 @@ public final class PortraitRule {
             if (!sits) {
                 return 1;
             }
-            if (isDone(part)) {
+            int done = doneParts();
+            if ((done & 1 << part) != 0) {
                 return 2;
             }
-            return (under[part] & ~doneParts()) != 0 ? 3 : 0;
+            return (under[part] & ~done) != 0 ? 3 : 0;
         }
 
         private int whyNotMake(int act) {
@@ -981,8 +975,9 @@ public final class PortraitRule {
 
         /** An hour of a fever that is not lost; the least PART not DONE has all UNDER it DONE. */
         private void paintLeast() {
+            int done = doneParts();
             for (int part = 0; part < EIGHT; part++) {
-                if (!isDone(part)) {
+                if ((done & 1 << part) == 0) {
                     paint(part);
                     return;
                 }

@@ -4,8 +4,12 @@ import java.lang.reflect.Method;
 import java.lang.reflect.Modifier;
 import java.nio.file.Files;
 import java.nio.file.Path;
+import java.util.Map;
 import java.util.Set;
+import java.util.TreeMap;
 import java.util.TreeSet;
+import java.util.regex.Matcher;
+import java.util.regex.Pattern;
 
 /** The public face is the document's and no more; the source keeps to LANGUAGE.md where that is quick to see. */
 public final class FaceTest {
@@ -22,6 +26,7 @@ public final class FaceTest {
         face();
         names();
         source();
+        depth();
         if (wrong != 0) {
             System.exit(1);
         }
@@ -109,5 +114,51 @@ public final class FaceTest {
                 from = -1;
             }
         }
+    }
+
+    /** Rule 11: calls go at most eight deep, the call of the face being the first; rule 8: here none calls itself. */
+    private static void depth() throws Exception {
+        Map<String, Set<String>> calls = calls();
+        check(calls.size() > 60 && calls.containsKey("behind") && calls.containsKey("doneParts"), "methods found: " + calls.keySet());
+        for (String method : calls.keySet()) {
+            String chain = longest(method, calls, 0);
+            check(chain.split(" ").length <= 8, "calls go too deep: " + chain);
+        }
+    }
+
+    /** Each method of the source, by its name, with those of them that it calls. */
+    private static Map<String, Set<String>> calls() throws Exception {
+        String text = Files.readString(Path.of("src/main/java/PortraitRule.java"));
+        text = text.replaceAll("(?s)/\\*.*?\\*/", "").replaceAll("//[^\n]*", "");
+        Map<String, Set<String>> calls = new TreeMap<>();
+        Pattern head = Pattern.compile(" {4}(?: {4})?(?:public|private) .*?(\\w+)\\(.*\\) \\{");
+        Pattern call = Pattern.compile("\\b(\\w+)\\(");
+        Set<String> inside = new TreeSet<>();
+        for (String line : text.split("\n")) {
+            Matcher begin = head.matcher(line);
+            if (begin.matches()) {
+                inside = calls.computeIfAbsent(begin.group(1), name -> new TreeSet<>());
+                continue;
+            }
+            for (Matcher found = call.matcher(line); found.find();) {
+                inside.add(found.group(1));
+            }
+        }
+        for (Set<String> called : calls.values()) {
+            called.retainAll(calls.keySet());
+        }
+        return calls;
+    }
+
+    private static String longest(String method, Map<String, Set<String>> calls, int level) {
+        String best = "";
+        // a method that comes back to itself would never end here
+        for (String called : level < 20 ? calls.get(method) : Set.<String>of()) {
+            String chain = longest(called, calls, level + 1);
+            if (chain.split(" ").length > best.split(" ").length || best.isEmpty()) {
+                best = chain;
+            }
+        }
+        return best.isEmpty() ? method : method + " " + best;
     }
 }
